@@ -666,9 +666,6 @@ public final class SignedPaths {
         }
 
         private boolean isGreatestWithin(int k) {
-            if (greatest == 0) {
-                return true;
-            }
             for (int node = 0; node < graph.nodes; node++) {
                 if (onward[k][node] == greatest) {
                     return true;

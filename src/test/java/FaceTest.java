@@ -1,0 +1,118 @@
+import java.io.IOException;
+import java.lang.reflect.Constructor;
+import java.lang.reflect.Field;
+import java.lang.reflect.Method;
+import java.lang.reflect.Modifier;
+import java.nio.file.Files;
+import java.nio.file.Path;
+import java.util.Set;
+import java.util.TreeSet;
+import java.util.regex.Pattern;
+
+/** The class shows the document's face and no more, and its text keeps to the rules that a text can show. */
+public final class FaceTest {
+    private static final Set<String> METHODS = Set.of("node()", "arc(int,int,int)", "weight(int,int)", "turn(int)",
+            "clear()", "told(int)", "least(int,int)", "way(int,int,int)", "within(int,int,int)", "rounds(int)",
+            "falling()", "ring(int)", "height(int)", "lifted(int)", "spare(int)", "order(int)", "far(int)",
+            "late(int)", "whole()", "critical(int)");
+    private static final Set<String> CONSTANTS =
+            Set.of("NONE", "NO_WAY", "BOTTOMLESS", "UNKNOWN", "OUTSIDE", "STATE", "ROOM");
+    /** Words and signs of LANGUAGE.md's rules 2, 4, 6 and 13 that this class has no need of. */
+    private static final String[] NOT_NEEDED = {
+        "->", "::", "\\btry\\b", "\\bcatch\\b", "\\bfinally\\b", "\\bthrow\\b", "\\bsynchronized\\b", "\\bassert\\b",
+        "\\bpackage\\b", "\\bimport\\b", "Exact\\b", "\\bRandom\\b", "\\bThread\\b", "System\\.(?!arraycopy)",
+        "\\bstatic\\s*\\{", "\\bdouble\\b", "\\bfloat\\b"
+    };
+
+    private static int wrong = 0;
+
+    private static void check(boolean holds, String what) {
+        if (!holds) {
+            wrong++;
+            System.out.println(what);
+        }
+    }
+
+    public static void main(String[] args) throws IOException {
+        checkClass();
+        checkMethods();
+        checkFields();
+        checkInnerClasses();
+        checkText();
+        System.out.println(wrong == 0 ? "the face is as written" : wrong + " faults in the face");
+        if (wrong != 0) {
+            System.exit(1);
+        }
+    }
+
+    private static void checkClass() {
+        int modifiers = SignedPaths.class.getModifiers();
+        check(Modifier.isPublic(modifiers) && Modifier.isFinal(modifiers), "the class is not public and final");
+        Constructor<?>[] constructors = SignedPaths.class.getDeclaredConstructors();
+        check(constructors.length == 1 && constructors[0].getParameterCount() == 0
+                && Modifier.isPublic(constructors[0].getModifiers()), "not one public constructor without parameters");
+    }
+
+    private static void checkMethods() {
+        Set<String> shown = new TreeSet<>();
+        Set<String> names = new TreeSet<>();
+        for (Method method : SignedPaths.class.getDeclaredMethods()) {
+            if (Modifier.isPublic(method.getModifiers())) {
+                shown.add(signature(method));
+                names.add(method.getName());
+                check(method.getReturnType() == int.class, signature(method) + " does not answer an int");
+                check(!Modifier.isStatic(method.getModifiers()), signature(method) + " is static");
+            }
+        }
+        check(shown.equals(METHODS), "the public methods are " + shown);
+        for (Method method : SignedPaths.class.getDeclaredMethods()) {
+            if (!Modifier.isPublic(method.getModifiers())) {
+                check(Modifier.isPrivate(method.getModifiers()), method.getName() + " is neither public nor private");
+                check(!names.contains(method.getName()), method.getName() + " bears the name of a public one");
+            }
+        }
+    }
+
+    private static String signature(Method method) {
+        StringBuilder text = new StringBuilder(method.getName()).append('(');
+        for (int i = 0; i < method.getParameterCount(); i++) {
+            text.append(i == 0 ? "" : ",").append(method.getParameterTypes()[i].getName());
+        }
+        return text.append(')').toString();
+    }
+
+    private static void checkFields() {
+        Set<String> shown = new TreeSet<>();
+        for (Field field : SignedPaths.class.getDeclaredFields()) {
+            int modifiers = field.getModifiers();
+            if (Modifier.isPublic(modifiers)) {
+                shown.add(field.getName());
+                check(field.getType() == int.class && Modifier.isStatic(modifiers) && Modifier.isFinal(modifiers),
+                        field.getName() + " is not a constant int");
+            } else {
+                check(Modifier.isPrivate(modifiers), field.getName() + " is neither public nor private");
+            }
+            check(!Modifier.isStatic(modifiers) || Modifier.isFinal(modifiers), field.getName() + " is not final");
+        }
+        check(shown.equals(CONSTANTS), "the public constants are " + shown);
+    }
+
+    private static void checkInnerClasses() {
+        Class<?>[] inside = SignedPaths.class.getDeclaredClasses();
+        check(inside.length <= 11, "too many classes");
+        for (Class<?> one : inside) {
+            int modifiers = one.getModifiers();
+            check(Modifier.isStatic(modifiers), one.getName() + " is not static");
+            check(!Modifier.isPublic(modifiers) && !Modifier.isProtected(modifiers), one.getName() + " is shown");
+            check(one.getDeclaredFields().length <= 20, one.getName() + " has too many fields");
+        }
+    }
+
+    private static void checkText() throws IOException {
+        String text = Files.readString(Path.of("src/main/java/SignedPaths.java"));
+        String code = text.replaceAll("(?s)/\\*.*?\\*/", "").replaceAll("//[^\n]*", "");
+        for (String word : NOT_NEEDED) {
+            check(!Pattern.compile(word).matcher(code).find(), "the text has " + word);
+        }
+    }
+}
