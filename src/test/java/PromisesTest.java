@@ -57,6 +57,7 @@ public final class PromisesTest {
         promise20Whole();
         promise21Critical();
         fullGraph();
+        eachCallSeesTheLastChange();
         objectsAreApart();
         System.out.println(wrong == 0 ? "all promises hold" : wrong + " answers are not as promised");
         if (wrong != 0) {
@@ -297,7 +298,7 @@ public final class PromisesTest {
 
     private static void promise11Rounds() {
         SignedPaths x = graph(4, arc(0, 1, 5), arc(1, 2, 1), arc(0, 2, 6), arc(2, 3, 1));
-        due("11: three arcs, as node 3 rests after two", x.rounds(0), 2);
+        due("11: by three arcs as light as by two", x.rounds(0), 2);
         due("11: lighter by three", x.weight(1, 0), 1);
         due("11: three", x.rounds(0), 3);
         due("11: no arc away", x.rounds(3), 0);
@@ -567,6 +568,46 @@ public final class PromisesTest {
         due("full: its way", x.way(1, 0, 10), 11);
         due("full: not further", x.way(1, 0, 11), NONE);
         due("full: rests", x.rounds(1), 11);
+    }
+
+    /** The longest ring that there can be; its last arc weighs so much that the whole weighs what is told. */
+    private static SignedPaths longRing(int weighs) {
+        SignedPaths x = graph(12);
+        for (int i = 0; i < 12; i++) {
+            due("long: arc", x.arc(i, (i + 1) % 12, i == 11 ? weighs : 0), i);
+        }
+        return x;
+    }
+
+    /** No call may lean on what another one worked out, neither on a new object nor after a change. */
+    private static void eachCallSeesTheLastChange() {
+        due("first: least", longRing(-1).least(0, 0), BOTTOMLESS);
+        due("first: way", longRing(1).way(0, 11, 10), 10);
+        due("first: within", longRing(-1).within(0, 0, 12), -1);
+        due("first: rounds", longRing(-1).rounds(0), NONE);
+        due("first: falling", longRing(-1).falling(), 12);
+        due("first: ring", longRing(-1).ring(11), 11);
+        due("first: height", longRing(-1).height(0), STATE);
+        due("first: lifted", longRing(-1).lifted(0), STATE);
+        due("first: spare", longRing(-1).spare(0), STATE);
+        due("first: order", longRing(1).order(0), STATE);
+        due("first: far", longRing(1).far(0), STATE);
+        due("first: late", longRing(1).late(0), STATE);
+        due("first: whole", longRing(1).whole(), STATE);
+        due("first: critical", longRing(1).critical(0), STATE);
+        SignedPaths x = longRing(1);
+        for (int i = 0; i < 3; i++) {
+            due("change: does not fall", x.falling(), 0);
+            due("change: falls", x.weight(11, -1), 1);
+            due("change: ring", x.ring(11), 11);
+            due("change: does not fall", x.weight(11, 1), -1);
+            due("change: ring", x.ring(11), NONE);
+            due("change: a ring", x.whole(), STATE);
+            due("change: away", x.turn(11), 0);
+            due("change: no ring", x.order(11), 11);
+            due("change: back", x.turn(11), 1);
+            due("change: a ring", x.critical(0), STATE);
+        }
     }
 
     private static void objectsAreApart() {
