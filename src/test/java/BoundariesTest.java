@@ -207,6 +207,21 @@ public final class BoundariesTest {
                 due(x.turn(1), 1);
             }
         });
+        test("512 calls: a question sees the last of any number of changes", () -> {
+            for (int changes = 1; changes <= CALLS_MOST - 11; changes++) {
+                changedSoOften(changes);
+            }
+        });
+        test("512 calls: beyond them answers are free, but nothing is thrown", () -> {
+            SignedPaths x = longRing(1, -12);
+            for (int i = 0; i < 20 * CALLS_MOST; i++) {
+                x.weight(i % 12, i % 5 - 2);
+                x.turn(i % 7);
+                x.way(i % 12, i % 11, i % 10);
+                x.ring(i % 12);
+                x.critical(i % 11);
+            }
+        });
         test("512 calls: all but those that make it are one question", () -> {
             SignedPaths x = longRing(-1000, -1000);
             for (int i = 24; i < CALLS_MOST; i++) {
@@ -227,6 +242,20 @@ public final class BoundariesTest {
         }
         x.weight(1, 3);
         due(call.on(x), want);
+    }
+
+    /** What counts changes in a number that is too small takes an old answer for a new one. */
+    private static void changedSoOften(int changes) {
+        SignedPaths x = graph(2, arc(0, 1, 0), arc(0, 1, 1000));
+        due(x.least(0, 1), 0);
+        due(x.whole(), 1000);
+        due(x.turn(1), 0);
+        for (int i = 1; i < changes; i++) {
+            x.weight(0, i);
+        }
+        due(x.told(2), 1);
+        due(x.within(0, 1, 1), changes - 1);
+        due(x.far(1), changes - 1);
     }
 
     // ---- Terms

@@ -17,11 +17,12 @@ public final class FaceTest {
             "late(int)", "whole()", "critical(int)");
     private static final Set<String> CONSTANTS =
             Set.of("NONE", "NO_WAY", "BOTTOMLESS", "UNKNOWN", "OUTSIDE", "STATE", "ROOM");
-    /** Words and signs of LANGUAGE.md's rules 2, 4, 6 and 13 that this class has no need of. */
-    private static final String[] NOT_NEEDED = {
-        "->", "::", "\\btry\\b", "\\bcatch\\b", "\\bfinally\\b", "\\bthrow\\b", "\\bsynchronized\\b", "\\bassert\\b",
-        "\\bpackage\\b", "\\bimport\\b", "Exact\\b", "\\bRandom\\b", "\\bThread\\b", "System\\.(?!arraycopy)",
-        "\\bstatic\\s*\\{", "\\bdouble\\b", "\\bfloat\\b"
+    /** What LANGUAGE.md's rules 2, 4, 5, 6 and 13 rule out and the text alone can show. */
+    private static final String[] RULED_OUT = {
+        "::", "\\bfinally\\b", "\\bsynchronized\\b", "\\bassert\\b", "\\bpackage\\b", "\\bgetMessage\\b",
+        "\\bimport\\s+(?!java\\.util\\.(ArrayList|List|Arrays|Iterator|NoSuchElementException)\\s*;)", "Exact\\s*\\(",
+        "\\bRandom\\b", "\\bThread\\b", "System\\.(?!arraycopy)", "\\bstatic\\s*\\{", "\\b(Throwable|Error|Exception)\\b",
+        "\\b(ArrayIndexOutOfBounds|NullPointer|ClassCast|NegativeArraySize|ArrayStore)Exception\\b"
     };
 
     private static int wrong = 0;
@@ -104,15 +105,27 @@ public final class FaceTest {
             int modifiers = one.getModifiers();
             check(Modifier.isStatic(modifiers), one.getName() + " is not static");
             check(!Modifier.isPublic(modifiers) && !Modifier.isProtected(modifiers), one.getName() + " is shown");
-            check(one.getDeclaredFields().length <= 20, one.getName() + " has too many fields");
+            check(countFields(one) <= 20, one.getName() + " has too many fields");
         }
+    }
+
+    private static int countFields(Class<?> one) {
+        int count = 0;
+        for (Field field : one.getDeclaredFields()) {
+            boolean isStatic = Modifier.isStatic(field.getModifiers());
+            check(!isStatic || Modifier.isFinal(field.getModifiers()), field.getName() + " is not final");
+            count += isStatic ? 0 : 1;
+        }
+        return count;
     }
 
     private static void checkText() throws IOException {
         String text = Files.readString(Path.of("src/main/java/SignedPaths.java"));
         String code = text.replaceAll("(?s)/\\*.*?\\*/", "").replaceAll("//[^\n]*", "");
-        for (String word : NOT_NEEDED) {
+        for (String word : RULED_OUT) {
             check(!Pattern.compile(word).matcher(code).find(), "the text has " + word);
         }
+        String withoutCases = code.replaceAll("\\b(case\\b[^;:{}]*?|default\\s*)->", "");
+        check(!withoutCases.contains("->"), "the text has a lambda");
     }
 }

@@ -174,6 +174,15 @@ public final class RefusedCallsTest {
 
     private static void refused(String sentence, Graph graph, int want, Call... calls) {
         tests++;
+        try {
+            checkRefused(sentence, graph, want, calls);
+        } catch (RuntimeException thrown) {
+            wrong++;
+            System.out.println(sentence + ": threw " + thrown);
+        }
+    }
+
+    private static void checkRefused(String sentence, Graph graph, int want, Call[] calls) {
         for (Call call : calls) {
             due(sentence, call.on(graph.make()), want);
         }
