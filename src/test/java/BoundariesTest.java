@@ -228,6 +228,64 @@ public final class BoundariesTest {
                 due(x.within(0, 8, 20), -20000);
             }
         });
+        test("512 calls: all are one question of a new object", () -> {
+            upToTheLast(new SignedPaths(), 0, x -> x.told(0), 0);
+            upToTheLast(new SignedPaths(), 0, SignedPaths::falling, 0);
+            upToTheLast(new SignedPaths(), 0, x -> x.ring(0), NONE);
+            upToTheLast(new SignedPaths(), 0, x -> x.order(0), NONE);
+            upToTheLast(new SignedPaths(), 0, SignedPaths::whole, 0);
+            upToTheLast(new SignedPaths(), 0, x -> x.critical(0), NONE);
+            upToTheLast(new SignedPaths(), 0, x -> x.least(0, 0), UNKNOWN);
+        });
+        test("512 calls: all but two are one question, a ring rises", () -> {
+            upToTheLast(loop(7), 2, x -> x.told(2), 1);
+            upToTheLast(loop(7), 2, x -> x.least(0, 0), 0);
+            upToTheLast(loop(7), 2, x -> x.way(0, 0, 0), NONE);
+            upToTheLast(loop(7), 2, x -> x.within(0, 0, 20), 0);
+            upToTheLast(loop(7), 2, x -> x.rounds(0), 0);
+            upToTheLast(loop(7), 2, SignedPaths::falling, 0);
+            upToTheLast(loop(7), 2, x -> x.height(0), 0);
+            upToTheLast(loop(7), 2, x -> x.lifted(0), 7);
+            upToTheLast(loop(7), 2, x -> x.spare(0), 7);
+            upToTheLast(loop(7), 2, SignedPaths::whole, STATE);
+        });
+        test("512 calls: all but two are one question, a ring falls", () -> {
+            upToTheLast(loop(-7), 2, x -> x.least(0, 0), BOTTOMLESS);
+            upToTheLast(loop(-7), 2, x -> x.way(0, 0, 0), NONE);
+            upToTheLast(loop(-7), 2, x -> x.within(0, 0, 20), -140);
+            upToTheLast(loop(-7), 2, x -> x.rounds(0), NONE);
+            upToTheLast(loop(-7), 2, SignedPaths::falling, 1);
+            upToTheLast(loop(-7), 2, x -> x.ring(0), 0);
+            upToTheLast(loop(-7), 2, x -> x.height(0), STATE);
+        });
+        test("512 calls: all but three are one question, no ring", () -> {
+            upToTheLast(graph(2, arc(1, 0, 7)), 3, x -> x.least(1, 0), 7);
+            upToTheLast(graph(2, arc(1, 0, 7)), 3, x -> x.way(1, 0, 0), 0);
+            upToTheLast(graph(2, arc(1, 0, 7)), 3, x -> x.spare(0), NO_WAY);
+            upToTheLast(graph(2, arc(1, 0, 7)), 3, x -> x.order(0), 1);
+            upToTheLast(graph(2, arc(1, 0, 7)), 3, x -> x.far(0), 7);
+            upToTheLast(graph(2, arc(1, 0, 7)), 3, x -> x.late(0), 7);
+            upToTheLast(graph(2, arc(1, 0, 7)), 3, SignedPaths::whole, 7);
+            upToTheLast(graph(2, arc(1, 0, 7)), 3, x -> x.critical(0), 0);
+        });
+        test("512 calls: all but those that make it are one change or refusal", () -> {
+            upToTheLast(new SignedPaths(), 0, SignedPaths::clear, 0);
+            upToTheLast(new SignedPaths(), 0, x -> x.arc(0, 0, 0), UNKNOWN);
+            upToTheLast(graph(12), 12, SignedPaths::node, ROOM);
+            upToTheLast(graphOfArcs(40), 42, x -> x.arc(0, 1, 0), ROOM);
+            upToTheLast(loop(3), 2, x -> x.weight(0, 3), 3);
+            SignedPaths x = loop(3);
+            for (int calls = 2; calls < CALLS_MOST; calls++) {
+                due(x.turn(0), calls % 2);
+            }
+        });
+    }
+
+    /** All calls of the object are this one, but for those that have been made. */
+    private static void upToTheLast(SignedPaths x, int made, Call call, int want) {
+        for (int calls = made; calls < CALLS_MOST; calls++) {
+            due(call.on(x), want);
+        }
     }
 
     /** The call is the 512th on an object with arcs 0 to 1 to 2 of weight 2 and, since the 511th, 3. */
